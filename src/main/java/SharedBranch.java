@@ -1067,12 +1067,14 @@ public final class SharedBranch {
 
     private static boolean isSign(int c) {
       return c == ';' || c == '=' || c == '(' || c == ')' || c == '{' || c == '}' || c == ','
-          || c == '+' || c == '-' || termSign(c) >= 0;
+          || combination(c) >= 0;
     }
 
-    /** Which combination a sign within a TERM is; NONE for others. */
-    private static int termSign(int c) {
+    /** Which combination a sign stands for; NONE for others. */
+    private static int combination(int c) {
       switch (c) {
+        case '+': return Algebra.JOIN;
+        case '-': return Algebra.LESS;
         case '&': return Algebra.CUT;
         case '*': return Algebra.PRODUCT;
         case '/': return Algebra.QUOTIENT;
@@ -1109,28 +1111,30 @@ public final class SharedBranch {
       return true;
     }
 
-    private boolean fail(int kind) {
-      faultKind = kind;
-      faultPlace = starts[at];
-      return false;
-    }
-
-    /** Goes on behind a token of this kind; the end stays where it is. */
-    private boolean pass(int kind) {
-      if (kinds[at] != kind) {
-        return fail(CANT_STAND);
-      }
-      if (kind != AT_END && at < MOST_TOKENS - 1) {
+    /** Goes on behind a token that fits; tells the fault at one that does not. */
+    private boolean advance(boolean fits, int fault) {
+      if (!fits) {
+        faultKind = fault;
+        faultPlace = starts[at];
+      } else if (kinds[at] != AT_END && at < MOST_TOKENS - 1) {
         at++;
       }
-      return true;
+      return fits;
+    }
+
+    private boolean fail(int fault) {
+      return advance(false, fault);
+    }
+
+    private boolean pass(int kind) {
+      return advance(kinds[at] == kind, CANT_STAND);
     }
 
     private boolean passNumber(int least, int most) {
-      if (kinds[at] == NUMBER && (values[at] < least || values[at] > most)) {
-        return fail(OUT_OF_BOUNDS);
+      if (kinds[at] != NUMBER) {
+        return fail(CANT_STAND);
       }
-      return pass(NUMBER);
+      return advance(values[at] >= least && values[at] <= most, OUT_OF_BOUNDS);
     }
 
     /** The value of the token that was passed last. */
@@ -1156,16 +1160,23 @@ public final class SharedBranch {
       if (word == EDGE_WORD && to.edges >= names) {
         return fail(TOO_MUCH);
       }
-      return pass(WORD) && readRest(word, to) && pass(';');
-    }
-
-    private boolean readRest(int word, World to) {
+      pass(WORD);
+      int register = values[at];
+      boolean fine;
       switch (word) {
-        case NAMES_WORD: return readNames(to);
-        case WEIGHT_WORD: return readWeight(to);
-        case EDGE_WORD: return readEdge(to);
-        default: return readLet();
+        case NAMES_WORD:
+          fine = readNames(to);
+          break;
+        case WEIGHT_WORD:
+          fine = readWeight(to);
+          break;
+        case EDGE_WORD:
+          fine = readEdge(to);
+          break;
+        default:
+          fine = passNumber(0, REGISTERS - 1) && pass('=') && sum(0) && emit(STORE, register);
       }
+      return fine && pass(';');
     }
 
     private boolean readNames(World to) {
@@ -1182,10 +1193,8 @@ public final class SharedBranch {
         return fail(CANT_STAND);
       }
       int name = text[starts[at]] - 'a';
-      if (name < 0 || name >= names) {
-        return fail(OUT_OF_BOUNDS);
-      }
-      if (!pass(WORD) || !passNumber(0, MOST_WEIGHT)) {
+      boolean isName = name >= 0 && name < names && name < MOST_NAMES;
+      if (!advance(isName, OUT_OF_BOUNDS) || !passNumber(0, MOST_WEIGHT)) {
         return false;
       }
       to.weights[name] = passed();
@@ -1207,55 +1216,32 @@ public final class SharedBranch {
       return true;
     }
 
-    private boolean readLet() {
-      if (!passNumber(0, REGISTERS - 1)) {
-        return false;
-      }
-      int register = passed();
-      return pass('=') && sum(0) && emit(STORE, register);
-    }
-
-    /** Depth: how many words and brackets this stands within. */
+    /**
+     * Depth: how many words and brackets this stands within. A + or - waits
+     * until the term behind it is whole; the other signs wait for a part alone.
+     */
     private boolean sum(int depth) {
-      if (!term(depth)) {
-        return false;
-      }
-      for (int i = 0; i < MOST_TOKENS; i++) {
-        int sign = kinds[at];
-        if (sign != '+' && sign != '-') {
-          return true;
-        }
-        if (!passSign() || !term(depth)) {
-          return false;
-        }
-        emit(COMBINE, sign == '+' ? Algebra.JOIN : Algebra.LESS);
-      }
-      return true;
-    }
-
-    private boolean term(int depth) {
+      int waiting = NONE;
       if (!part(depth)) {
         return false;
       }
-      for (int i = 0; i < MOST_TOKENS; i++) {
-        int what = termSign(kinds[at]);
-        if (what < 0) {
-          return true;
+      for (int i = 0; i < MOST_TOKENS && combination(kinds[at]) >= 0; i++) {
+        int what = combination(kinds[at]);
+        boolean ofSum = what == Algebra.JOIN || what == Algebra.LESS;
+        if (ofSum && waiting >= 0) {
+          emit(COMBINE, waiting);
         }
-        if (!passSign() || !part(depth)) {
+        signs++;
+        if (!advance(signs <= MOST_SIGNS, TOO_MUCH) || !part(depth)) {
           return false;
         }
-        emit(COMBINE, what);
+        if (ofSum) {
+          waiting = what;
+        } else {
+          emit(COMBINE, what);
+        }
       }
-      return true;
-    }
-
-    private boolean passSign() {
-      signs++;
-      if (signs > MOST_SIGNS) {
-        return fail(TOO_MUCH);
-      }
-      return pass(kinds[at]);
+      return waiting < 0 || emit(COMBINE, waiting);
     }
 
     private boolean part(int depth) {
@@ -1265,10 +1251,7 @@ public final class SharedBranch {
         case '{':
           return family();
         case '(':
-          if (depth >= MOST_WITHIN) {
-            return fail(TOO_MUCH);
-          }
-          return pass('(') && sum(depth + 1) && pass(')');
+          return advance(depth < MOST_WITHIN, TOO_MUCH) && sum(depth + 1) && pass(')');
         case WORD:
           return wordPart(values[at], depth);
         default:
@@ -1283,10 +1266,7 @@ public final class SharedBranch {
       if (word < RESHAPES) {
         return fail(CANT_STAND);
       }
-      if (depth >= MOST_WITHIN) {
-        return fail(TOO_MUCH);
-      }
-      return pass(WORD) && part(depth + 1) && emit(RESHAPE, word - RESHAPES);
+      return advance(depth < MOST_WITHIN, TOO_MUCH) && part(depth + 1) && emit(RESHAPE, word - RESHAPES);
     }
 
     private boolean family() {
@@ -1309,20 +1289,19 @@ public final class SharedBranch {
 
     private boolean member() {
       if (kinds[at] == NUMBER) {
-        return passNumber(0, 0) && emit(ADD_SET, 0);
+        return advance(values[at] == 0, OUT_OF_BOUNDS) && emit(ADD_SET, 0);
       }
       if (kinds[at] != WORD) {
-        return fail(CANT_STAND);
+        return advance(false, CANT_STAND);
       }
       int set = 0;
+      boolean fits = true;
       for (int i = starts[at]; i < ends[at] && i < length; i++) {
         int name = text[i] - 'a';
-        if (name < 0 || name >= names || (set >> name & 1) != 0) {
-          return fail(OUT_OF_BOUNDS);
-        }
-        set |= 1 << name;
+        fits = fits && name >= 0 && name < names && (set >> name & 1) == 0;
+        set |= fits ? 1 << name : 0;
       }
-      return pass(WORD) && emit(ADD_SET, set);
+      return advance(fits, OUT_OF_BOUNDS) && emit(ADD_SET, set);
     }
   }
 

@@ -192,12 +192,19 @@ public final class PromiseTest {
     putIs("not not not not not not 0", "a,ab,bc");
     putIs("((((((0))))))", "a,ab,bc");
     putIs("min down 0", "0");
+    String deep = "{a}+{b}*{c}";
+    for (int i = 0; i < 6; i++) {
+      deep = "{a}+{b}*(" + deep + ")";
+    }
+    putIs(deep, "a,ab,bc");
   }
 
   private static void signs() {
     putIs("{ab,b,bc} / {b}", "0,a,c");
     putIs("{ab,ac,bc} / {b,c}", "a");
     putIs("0 / {}", "");
+    putIs("{c,ac} / {0,a}", "c");
+    putIs("{c,bc} / {0,a,b}", "");
     putIs("all / {0}", "0,a,b,ab,c,ac,bc,abc");
     putIs("0 / {a,bc}", "0");
     putIs("{ab,ac,bc} % {b,c}", "bc");
@@ -332,6 +339,9 @@ public final class PromiseTest {
     due("11 goes", x.sets(9, 5, false), 1);
     due("11 goes again", x.sets(9, 5, false), 0);
     due("11 none left", x.size(9), 0);
+    due("11 the empty set comes", x.sets(9, 0, true), 1);
+    due("11 the empty set goes", x.sets(9, 0, false), 1);
+    due("11 it is gone", x.has(9, 0), 0);
     due("11 no such set", x.sets(9, 8, true), -2);
     due("11 set -1", x.sets(9, -1, false), -2);
     due("11 no such register", x.sets(10, 0, true), -2);
@@ -411,6 +421,7 @@ public final class PromiseTest {
     due("16 a set that is of it", x.rank(0, 3), 1);
     due("16 a set that is not", x.rank(0, 4), 2);
     due("16 the last set", x.rank(0, 7), 3);
+    due("16 behind the empty set", x.rank(1, 1), 1);
     due("16 no such set", x.rank(0, 8), -2);
     due("16 set -1", x.rank(0, -1), -2);
     due("16 no such register", x.rank(10, 0), -2);
@@ -639,6 +650,9 @@ public final class PromiseTest {
     TestKit.put(x, 5, "{b}");
     due("31 {b} is not", x.net(), 5);
     due("31 no world", new SharedBranch().net(), -2);
+    // at a: {a,b}, {0,a}, {a}, whose halves are alike in part; at b: {b}, {0,b}
+    SharedBranch y = TestKit.withWorld("names 2; let 0 = {a,b}; let 1 = {0,a}; let 2 = {a}; let 3 = {0,b};");
+    due("31 of like halves", y.net(), 5);
     SharedBranch none = TestKit.withWorld("names 4;");
     due("31 of none", none.net(), 0);
   }
@@ -678,6 +692,9 @@ public final class PromiseTest {
     due("34 order(2)", x.order(2), 1);
     due("34 the same set", x.has(0, 15), 1);
     due("34 swap(1) back", x.swap(1), 6);
+    due("34 the last two", x.swap(2), 6);
+    due("34 order(3)", x.order(3), 2);
+    due("34 the last two back", x.swap(2), 6);
     due("34 no next one", x.swap(3), -2);
     due("34 no such place", x.swap(4), -2);
     due("34 place -1", x.swap(-1), -2);
@@ -850,6 +867,11 @@ public final class PromiseTest {
     x.row(2, 0, 0);
     due("41 an empty row and register", x.judge(2, 8), 0);
     due("41 an empty row", x.judge(2, 0), -1);
+    due("41 an empty row, the empty set", x.judge(2, 9), -1);
+    x.row(2, 0, 2);
+    x.write(2, 1, 1);
+    x.sets(9, 1, true);
+    due("41 neighbours", x.judge(2, 9), 2);
     due("41 slot 4", x.judge(4, 0), -2);
     due("41 slot -1", x.judge(-1, 0), -2);
     due("41 p 10", x.judge(0, 10), -2);
