@@ -14,18 +14,11 @@ public final class FaultTest {
   }
 
   private static void fine(String text, int lines) {
-    SharedBranch x = new SharedBranch();
-    TestKit.due("world of " + text, TestKit.world(x, text), lines);
-    TestKit.due("fault(0) of " + text, x.fault(0), 0);
-    TestKit.due("fault(1) of " + text, x.fault(1), -1);
+    TestKit.fine(text, lines);
   }
 
   private static void faulty(String text, int kind, int place) {
-    SharedBranch x = new SharedBranch();
-    TestKit.due("world of " + text, TestKit.world(x, text), -4);
-    TestKit.due("fault(0) of " + text, x.fault(0), kind);
-    TestKit.due("fault(1) of " + text, x.fault(1), place);
-    TestKit.due("no world by " + text, x.count(0), 0);
+    TestKit.faulty(text, kind, place);
   }
 
   private static void firstLines() {

@@ -529,8 +529,8 @@ public final class PromiseTest {
     due("23 seed 0", x.draw(0, 0), 0);
     due("23 seed 1", x.draw(0, 1), 6);
     due("23 seed 1 of three", x.draw(1, 1), 6);
-    // seed 2: 2207042835 - 2147483648 = 59571187 -> 908, 4 modulo 8, 2 modulo 3
-    due("23 seed 2", x.draw(0, 2), 59571187 / 65536 % 8);
+    // seed 2: 2207042835 - 2147483648 = 59559187 -> 908, 4 modulo 8, 2 modulo 3
+    due("23 seed 2", x.draw(0, 2), 59559187 / 65536 % 8);
     due("23 seed 2e9", x.draw(0, 2000000000), (int) ((1103515245L * 2000000000L + 12345L) % 2147483648L / 65536L % 8L));
     due("23 seed 2e9 + 1", x.draw(0, 2000000001), -2);
     due("23 seed -1", x.draw(0, -1), -2);

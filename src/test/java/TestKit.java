@@ -2,16 +2,37 @@
 final class TestKit {
   private static int asked = 0;
   private static int wrong = 0;
+  private static String context = "";
 
   private TestKit() {}
+
+  /** What is said ahead of each answer that is not due. */
+  static void about(String what) {
+    context = what.isEmpty() ? "" : what + " | ";
+  }
+
+  static int asked() {
+    return asked;
+  }
 
   static void due(String call, long got, long want) {
     asked++;
     if (got != want) {
-      wrong++;
-      if (wrong <= 100) {
-        System.out.println(call + " answered " + got + ", due is " + want);
-      }
+      tell(call + " answered " + got + ", due is " + want);
+    }
+  }
+
+  static void due(String call, String got, String want) {
+    asked++;
+    if (!got.equals(want)) {
+      tell(call + " is " + got + ", due is " + want);
+    }
+  }
+
+  private static void tell(String what) {
+    wrong++;
+    if (wrong <= 100) {
+      System.out.println(context + what);
     }
   }
 
@@ -52,6 +73,10 @@ final class TestKit {
     due("end(" + bytes.length + ")", x.end(bytes.length), bytes.length);
   }
 
+  static void feed(SharedBranch x, String text) {
+    feed(x, bytesOf(text));
+  }
+
   static int world(SharedBranch x, String text) {
     feed(x, bytesOf(text));
     return x.world();
@@ -66,6 +91,21 @@ final class TestKit {
     SharedBranch x = new SharedBranch();
     holds("world of " + text, world(x, text) > 0);
     return x;
+  }
+
+  static void fine(String text, int lines) {
+    SharedBranch x = new SharedBranch();
+    due("world of " + text, world(x, text), lines);
+    due("fault(0) of " + text, x.fault(0), 0);
+    due("fault(1) of " + text, x.fault(1), -1);
+  }
+
+  static void faulty(String text, int kind, int place) {
+    SharedBranch x = new SharedBranch();
+    due("world of " + text, world(x, text), -4);
+    due("fault(0) of " + text, x.fault(0), kind);
+    due("fault(1) of " + text, x.fault(1), place);
+    due("no world by " + text, x.count(0), 0);
   }
 
   /** A family as its sets in words of names, by number: "0,a,b,ab". */
@@ -98,11 +138,6 @@ final class TestKit {
   }
 
   static void told(String what, SharedBranch x, int p, String want) {
-    String got = told(x, p);
-    asked++;
-    if (!got.equals(want)) {
-      wrong++;
-      System.out.println(what + " is " + got + ", due is " + want);
-    }
+    due(what, told(x, p), want);
   }
 }
