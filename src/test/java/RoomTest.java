@@ -18,7 +18,25 @@ public final class RoomTest {
     calls(x);
     long calls = used() - before;
     TestKit.holds("the calls take " + calls + " bytes", calls < 2000);
+    lastCalls();
     TestKit.finish("RoomTest");
+  }
+
+  /** An object is used for 512 calls: as many dear ones make nothing, and the 512th is answered as the first. */
+  private static void lastCalls() {
+    SharedBranch x = new SharedBranch();
+    feed(x, "names 10;let 0={ab,cde,fg,hij,a,j}*{0,ac,bdf,egi,hj};");
+    sum += x.world();
+    int first = x.sift(0);
+    int made = 3 + 1 + 1 + 1;
+    long before = used();
+    for (int call = made + 1; call < 512; call++) {
+      sum += call % 8 == 0 ? x.sift(0) : call % 2 == 0 ? x.makes(1, 5, 0, 0) : x.net();
+    }
+    int nodes = x.nodes(0);
+    long calls = used() - before;
+    TestKit.holds("506 dear calls take " + calls + " bytes", calls < 2000);
+    TestKit.holds("the 512th call: " + nodes + " nodes, not more than " + first, nodes > 0 && nodes <= first);
   }
 
   private static long used() {
