@@ -29,6 +29,8 @@ public final class SharedBranch {
   private static final int MOST_PACKED = 12;
   private static final int MOST_FOR_BEST = 6;
   private static final int MOST_SEED = 2000000000;
+  /** Above the nodes of any register, so that the first order tried is fewer. */
+  private static final int MORE_THAN_ANY = 1000000;
 
   private final byte[] tape = new byte[MOST_BYTES];
   private int taped = 0;
@@ -1799,7 +1801,7 @@ public final class SharedBranch {
       fewestBehind[all] = 0;
       for (int ahead = all - 1; ahead >= 0; ahead--) {
         int many = gatherParts(x.words[0], ahead, all);
-        fewestBehind[ahead] = Integer.MAX_VALUE;
+        fewestBehind[ahead] = MORE_THAN_ANY;
         for (int name = 0; name < names && name < MOST_FOR_BEST; name++) {
           if ((ahead >> name & 1) == 0) {
             int nodes = partsWith(name, many) + fewestBehind[ahead | 1 << name];
@@ -1871,7 +1873,7 @@ public final class SharedBranch {
     int siftAll(World w, Family x, Branches branches) {
       int fewest = 0;
       for (int name = 0; name < w.names && name < MOST_NAMES; name++) {
-        fewest = Integer.MAX_VALUE;
+        fewest = MORE_THAN_ANY;
         int goal = 0;
         for (int place = 0; place < w.names && place < MOST_NAMES; place++) {
           w.moveName(name, place);
@@ -1905,7 +1907,7 @@ public final class SharedBranch {
     }
 
     /** Each step sees a crossing more, so it goes no deeper than they are. */
-    private void walk(World w, int here, int till, int seen, int taken, Family to) {
+    private static void walk(World w, int here, int till, int seen, int taken, Family to) {
       for (int e = 0; e < w.edges && e < MOST_NAMES; e++) {
         int next = acrossFrom(w, e, here);
         if (next < 0 || (seen >> next & 1) != 0) {
@@ -2007,33 +2009,33 @@ public final class SharedBranch {
     }
 
     int fewestForAll() {
-      return fewestFrom(0, 0);
+      return fewestFrom(members, many, goal, 0, 0);
     }
 
     int mostDisjoint() {
-      return mostFrom(0, 0);
+      return mostFrom(members, many, 0, 0);
     }
 
-    private int fewestFrom(int at, int have) {
+    private static int fewestFrom(int[] members, int many, int goal, int at, int have) {
       if (have == goal) {
         return 0;
       }
-      if (at < 0 || at >= many || at >= MOST_PACKED) {
+      if (at < 0 || at >= many || at >= members.length) {
         return MOST_PACKED + 1;
       }
-      int without = fewestFrom(at + 1, have);
-      return Math.min(without, 1 + fewestFrom(at + 1, have | members[at]));
+      int without = fewestFrom(members, many, goal, at + 1, have);
+      return Math.min(without, 1 + fewestFrom(members, many, goal, at + 1, have | members[at]));
     }
 
-    private int mostFrom(int at, int have) {
-      if (at < 0 || at >= many || at >= MOST_PACKED) {
+    private static int mostFrom(int[] members, int many, int at, int have) {
+      if (at < 0 || at >= many || at >= members.length) {
         return 0;
       }
-      int without = mostFrom(at + 1, have);
+      int without = mostFrom(members, many, at + 1, have);
       if ((members[at] & have) != 0) {
         return without;
       }
-      return Math.max(without, 1 + mostFrom(at + 1, have | members[at]));
+      return Math.max(without, 1 + mostFrom(members, many, at + 1, have | members[at]));
     }
   }
 

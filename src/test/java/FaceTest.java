@@ -111,22 +111,38 @@ public final class FaceTest {
     for (int i = 0; i < text.length(); i++) {
       TestKit.holds("a sign of the source", text.charAt(i) == '\n' || text.charAt(i) >= 32 && text.charAt(i) < 127);
     }
-    methodLengths(text);
+    library(code);
+    methods(text);
+  }
+
+  /** Rule 4 lists functions of the library, and none of its constants. */
+  private static void library(String code) {
+    Set<String> listed = Set.of("Integer.bitCount", "Long.bitCount", "Long.numberOfTrailingZeros", "Math.max",
+        "Math.min", "System.arraycopy", "Arrays.fill");
+    Matcher used = Pattern.compile("\\b((?:Integer|Long|Math|System|Arrays|String|List)\\.\\w+)(\\(?)").matcher(
+        code.replaceAll("import [^;]*;", ""));
+    while (used.find()) {
+      TestKit.holds("the library's " + used.group(1), listed.contains(used.group(1)) && used.group(2).equals("("));
+    }
   }
 
   /** Methods end with a brace as far in as they begin. */
-  private static void methodLengths(String text) {
+  private static void methods(String text) {
     String[] lines = text.split("\n");
     for (int i = 0; i < lines.length; i++) {
-      Matcher head = Pattern.compile("^(  |    )\\w[^=;]*\\(.*\\) \\{$").matcher(lines[i]);
+      Matcher head = Pattern.compile("^(  |    )\\w[^=;(]*?(\\w+)\\(.*\\) \\{$").matcher(lines[i]);
       if (!head.find()) {
         continue;
       }
-      int end = i;
+      int end = i + 1;
+      boolean callsItself = false;
       while (end < lines.length && !lines[end].equals(head.group(1) + "}")) {
+        callsItself |= Pattern.compile("(?<![\\w.])" + head.group(2) + "\\(").matcher(lines[end]).find();
         end++;
       }
       TestKit.holds("lines of " + lines[i].trim() + ": " + (end - i + 1), end - i + 1 <= 60);
+      // rule 8: a method that calls itself is private and static
+      TestKit.holds(lines[i].trim() + " calls itself", !callsItself || lines[i].trim().startsWith("private static "));
     }
   }
 }
